@@ -1383,7 +1383,7 @@ public final class MountSpaces {
             return takeAnswer(changer.bindPart(source, top, walker.row, walker.directory));
         }
 
-        /** Reads the end of a statement, which is too late for one that was done on the draft. */
+        /** Reads the semicolon behind a statement that was done with this answer. */
         private boolean takeAnswer(int answer) {
             if (input.kind == ';' && answer < 0) {
                 return input.fail(IMPOSSIBLE);

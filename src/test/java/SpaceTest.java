@@ -91,6 +91,10 @@ public final class SpaceTest {
         Check.same("41 mounts", x.copySpace(0, true), -8);
         Check.same("nothing changes", x.checksum(), before);
         Check.same("10 more are 41", x.copySpace(1, true), -8);
+        x.unmount(19);
+        Check.same("11 more are 41", x.copySpace(0, true), -8);
+        x.undo();
+        x.undo();
         x.unmount(9);
         Check.same("10 more are 40", x.copySpace(1, true), 3);
         Check.same("the numbers go on", x.mountAt(39), 50);

@@ -45,6 +45,12 @@ public final class UndoTest {
         Check.load(x, "spaces;volume u(a,b);volume a;root a;");
         undone("another load", x, before);
         Check.same("the names are back", Check.look(x, 1, "/b/v"), 401);
+        x.copySpace(0, true);
+        before = x.checksum();
+        x.dropSpace();
+        x.copySpace(0, false);
+        x.undo();
+        undone("dropSpace, with the locked mounts", x, before);
         x.make(0, 0);
         before = x.checksum();
         x.move(1, 0, 0);

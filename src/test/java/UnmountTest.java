@@ -9,6 +9,7 @@ public final class UnmountTest {
 
     public static void main(String[] args) {
         plain();
+        theOthers();
         followers();
         othersStay();
         upAndDown();
@@ -29,6 +30,24 @@ public final class UnmountTest {
         Check.same("made so far", x.count(7), 4);
         x.mount(0, 1, 1);
         Check.same("a new number", Check.mounts(x), "0 4");
+    }
+
+    private static void theOthers() {
+        MountSpaces x = Check.loaded(A + "mount a/e;bind/b>/d;mount u/b;bind/b/v>/b/v/w;"
+            + "make secret/b;make shared/d;bind/d/c>/b;make slave/b;");
+        x.copySpace(0, true);
+        Check.same("unmount(1)", x.unmount(1), 1);
+        Check.mount(x, 0, 0, 0, 0, -1, -1, 0, 0, 0, 0);
+        Check.mount(x, 2, 0, 0, 1, 0, 3, 1, 0, 0, 0);
+        Check.mount(x, 3, 0, 1, 0, 0, 1, 0, 0, 1, 0);
+        Check.mount(x, 4, 0, 1, 1, 3, 2, 0, 0, 0, 0);
+        Check.mount(x, 5, 0, 0, 2, 3, 0, 0, 1, 0, 0);
+        Check.mount(x, 6, 1, 0, 0, -1, -1, 0, 0, 0, 1);
+        Check.mount(x, 7, 1, 0, 0, 6, 4, 0, 0, 0, 1);
+        Check.mount(x, 8, 1, 0, 1, 6, 3, 0, 1, 0, 1);
+        Check.mount(x, 9, 1, 1, 0, 6, 1, 0, 0, 1, 1);
+        Check.mount(x, 10, 1, 1, 1, 9, 2, 0, 0, 0, 1);
+        Check.mount(x, 11, 1, 0, 2, 9, 0, 0, 1, 0, 1);
     }
 
     private static void followers() {
