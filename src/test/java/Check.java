@@ -1,7 +1,15 @@
+import java.util.function.Consumer;
+import java.util.function.Supplier;
+import java.util.function.ToIntFunction;
+
 /** What the tests share: comparisons that are counted, and texts put into the input buffer. */
 final class Check {
+    private static final int BLANK = 0x20202020;
+
     private static int compared = 0;
     private static int wrong = 0;
+    private static int cases = 0;
+    private static String name = "";
 
     private Check() {
     }
@@ -10,7 +18,7 @@ final class Check {
         compared++;
         if (got != due) {
             wrong++;
-            System.out.println(call + " answered " + got + ", due is " + due);
+            System.out.println(name + call + " answered " + got + ", due is " + due);
         }
     }
 
@@ -22,7 +30,7 @@ final class Check {
         compared++;
         if (!got.equals(due)) {
             wrong++;
-            System.out.println(call + " answered \"" + got + "\", due is \"" + due + "\"");
+            System.out.println(name + call + " answered \"" + got + "\", due is \"" + due + "\"");
         }
     }
 
@@ -37,13 +45,62 @@ final class Check {
         }
         if (!got.equals(due.getName())) {
             wrong++;
-            System.out.println(call + " threw " + got + ", due is " + due.getName());
+            System.out.println(name + call + " threw " + got + ", due is " + due.getName());
         }
+    }
+
+    /** A test of one boundary case: its name tells the promise and what the document says. */
+    static void edge(String promise, Runnable body) {
+        cases++;
+        name = promise + ": ";
+        try {
+            body.run();
+        } catch (RuntimeException e) {
+            wrong++;
+            System.out.println(name + "ended by " + e);
+        }
+        name = "";
+    }
+
+    /** The call must be refused: it changes nothing, but it is a change that undo counts. */
+    static void refused(String call, int due, Supplier<MountSpaces> maker,
+            ToIntFunction<MountSpaces> body) {
+        MountSpaces x = maker.get();
+        long before = x.checksum();
+        int offset = x.errorOffset();
+        same(call, body.applyAsInt(x), due);
+        same("checksum after " + call, x.checksum(), before);
+        same("errorOffset after " + call, x.errorOffset(), offset);
+        same("undo of " + call, x.undo(), Math.min(changes(maker.get()), 7));
+        same("checksum after the undo of " + call, x.checksum(), before);
+    }
+
+    /** The call must throw: it changes nothing at all, and there is nothing more to undo. */
+    static void thrown(String call, Class<?> due, Supplier<MountSpaces> maker,
+            Consumer<MountSpaces> body) {
+        MountSpaces x = maker.get();
+        append(x, "/                   ");
+        x.path(0);
+        long before = x.checksum();
+        int offset = x.errorOffset();
+        raises(call, due, () -> body.accept(x));
+        same("checksum after " + call, x.checksum(), before);
+        same("errorOffset after " + call, x.errorOffset(), offset);
+        same("the text of path after " + call, x.pathByte(0), '/');
+        same("append after " + call, x.append(BLANK, BLANK, BLANK, BLANK, BLANK), 40);
+        same("look after " + call, x.look(0, 40), look(maker.get(), 0, "/"));
+        same("what can be undone after " + call, changes(x), changes(maker.get()));
+    }
+
+    /** How many changes can be undone; one of them is undone by this. */
+    static int changes(MountSpaces x) {
+        return x.undo() + 1;
     }
 
     /** Ends the test: with exit code 1 if an answer was not the one that is due. */
     static void end(String test) {
-        System.out.println(test + ": " + compared + " compared, " + wrong + " wrong");
+        System.out.println(test + ": " + (cases == 0 ? "" : cases + " boundary cases, ")
+            + compared + " compared, " + wrong + " wrong");
         if (wrong != 0 || compared == 0) {
             System.exit(1);
         }

@@ -50,7 +50,8 @@ public final class ModelTest {
         if (!oneIn(8)) {
             load();
         }
-        while (calls < 505 && isGood) {
+        // A load takes up to 33 calls, and more than 512 calls are not promised to be answered.
+        while (calls < 470 && isGood) {
             if (oneIn(60)) {
                 load();
             } else {
