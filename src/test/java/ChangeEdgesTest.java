@@ -413,6 +413,12 @@ public final class ChangeEdgesTest {
         // 2 on b of 1 on b of 0: 1 is removed behind 2, and it was the one on which 2 was.
         Check.same("unmount", x.unmount(2), 2);
         Check.same("mounts", Check.mounts(x), "0");
+        MountSpaces z = Check.loaded(A + "make shared/;bind/>/b;");
+        z.bind(0, 0, 1, 1);
+        z.copySpace(0, false);
+        // The same, with 3 to 5 in space 1: the followers go on when 1 is gone.
+        Check.same("unmount", z.unmount(2), 3);
+        Check.same("mounts", Check.mounts(z), "0 3 4");
         MountSpaces y = Check.loaded(A + "make shared/;bind/>/b;");
         y.copySpace(0, false);
         // 1 and 3 are followers of 0, and removed before they are looked at.

@@ -82,6 +82,12 @@ public final class InputEdgesTest {
             Check.same("look with byte " + sign, x.look(0, 20), -12);
             Check.same("errorOffset", x.errorOffset(), 2);
         }
+        x.append(0xaf622f63, BLANK, BLANK, BLANK, BLANK);
+        Check.same("look with a slash and 128 more", x.look(0, 20), -12);
+        Check.same("errorOffset", x.errorOffset(), 0);
+        x.append(0x2f62af63, BLANK, BLANK, BLANK, BLANK);
+        Check.same("look with the second slash and 128 more", x.look(0, 20), -12);
+        Check.same("errorOffset", x.errorOffset(), 2);
         x.append(-1, -1, -1, -1, -1);
         Check.same("words of -1 are 20 bytes, too", x.append(0, 0, 0, 0, 0), 40);
         Check.same("look of 255", x.look(0, 40), -12);

@@ -1,4 +1,6 @@
 import java.io.IOException;
+import java.lang.reflect.Field;
+import java.lang.reflect.Modifier;
 import java.nio.file.Files;
 import java.nio.file.Path;
 import java.util.List;
@@ -7,12 +9,18 @@ import java.util.regex.Pattern;
 
 /** Those rules of ../shared/LANGUAGE.md that can be seen from the words of the program. */
 public final class RulesTest {
+    /** What no rule allows; of the exceptions those that the machine throws by itself, too. */
     private static final String[] NEVER = {
-        "->", "::", "\\bcatch\\b", "\\btry\\b", "\\bfinally\\b", "\\bsynchronized\\b",
-        "\\bassert\\b", "\\bvar\\b", "\\bprotected\\b", "^package\\b", "static\\s*\\{",
-        "\\.(equals|hashCode|toString|getClass|getMessage|stream|format|wait|notify)\\(",
-        "System\\.(?!arraycopy\\()", "Math\\.(?!max\\(|min\\()", "\\bArrays\\.",
-        "\\bstatic(?! final| boolean| int| long| void)", "\\+ \"", "\" \\+", "\\w\\.\\.\\."};
+        "->", "::", "\\bfinally\\b", "\\btry \\(", "\\bsynchronized\\b", "\\bassert\\b",
+        "\\bvar\\b", "\\bprotected\\b", "^package\\b", "static\\s*\\{",
+        "catch \\((?!(IllegalState|IllegalArgument|UnsupportedOperation|NoSuchElement)Exception )",
+        "\\.(hashCode|getClass|getMessage|stream|format|wait|notify)\\(",
+        "System\\.(?!arraycopy\\()", "Math\\.(?!(max|min|abs|floorDiv|floorMod)\\()",
+        "\\bArrays\\.(?!(copyOf|copyOfRange|fill)\\()",
+        "\\bstatic(?! final| boolean| int| long| void| abstract)", "\\+ \"", "\" \\+",
+        "\\w\\.\\.\\."};
+    private static final String IMPORT =
+        "import java\\.util\\.(NoSuchElementException|ArrayList|List|Arrays|Iterator);";
 
     private RulesTest() {
     }
@@ -25,21 +33,32 @@ public final class RulesTest {
             Matcher matcher = Pattern.compile(never, Pattern.MULTILINE).matcher(code);
             Check.same("found " + never, matcher.find() ? matcher.group() : "", "");
         }
-        Check.same("imports", Pattern.compile("(?m)^import .*$").matcher(code).results()
-            .map(found -> found.group()).toList().toString(),
-            "[import java.util.NoSuchElementException;]");
+        Matcher imports = Pattern.compile("(?m)^import .*$").matcher(code);
+        while (imports.find()) {
+            Check.same(imports.group(), imports.group().matches(IMPORT), true);
+        }
         Matcher thrown = Pattern.compile("throw [^;]*;").matcher(code);
         while (thrown.find()) {
             Check.same(thrown.group(), thrown.group().matches(
-                "throw new [A-Z]\\w+Exception\\(\"[^\"]*\"\\);"), true);
+                "throw new [A-Z]\\w+Exception\\((\"[^\"]*\")?\\);"), true);
         }
-        for (int i = 0; i < code.length(); i++) {
-            Check.same("sign " + i, code.charAt(i) < 127, true);
-        }
+        Check.same("signs over 127", code.chars().filter(sign -> sign > 127).count(), 0);
         long classes = Pattern.compile("\\bclass \\w+").matcher(code).results().count();
         Check.same(classes + " classes are not too many", classes <= 12, true);
         methods(lines);
+        fields(MountSpaces.class);
+        for (Class<?> inside : MountSpaces.class.getDeclaredClasses()) {
+            fields(inside);
+        }
         Check.end("RulesTest");
+    }
+
+    private static void fields(Class<?> type) {
+        int fields = 0;
+        for (Field field : type.getDeclaredFields()) {
+            fields += Modifier.isStatic(field.getModifiers()) ? 0 : 1;
+        }
+        Check.same(type + " has at most 20 fields", fields <= 20, true);
     }
 
     private static void methods(List<String> lines) {

@@ -45,6 +45,9 @@ public final class SetupEdgesTest {
         Check.edge("Promise 3, spaces before any token and behind the last",
             SetupEdgesTest::spaces);
         Check.edge("Promise 3, no other byte separates tokens", SetupEdgesTest::otherBytes);
+        Check.edge("Promise 3, a byte over 127 is no sign and no letter",
+            SetupEdgesTest::highBytes);
+        Check.edge("Promise 3, each letter of a word counts", SetupEdgesTest::wrongLetters);
         Check.edge("Promise 3, any names can be names", SetupEdgesTest::anyNames);
     }
 
@@ -302,6 +305,48 @@ public final class SetupEdgesTest {
             error(-12, A + "^" + sign);
             error(-12, A + "mount u/b;^" + sign);
         }
+    }
+
+    /** Each byte of a good text in turn, with 128 more than before. */
+    private static void highBytes() {
+        String text = "spaces;volume a(b,c);root a;bind /b>/c;make slave/b;";
+        taken(text, 2);
+        for (int i = 0; i < text.length(); i++) {
+            char sign = (char) (text.charAt(i) + 128);
+            MountSpaces x = new MountSpaces();
+            Check.same("load with " + (int) sign + " at " + i,
+                Check.load(x, text.substring(0, i) + sign + text.substring(i + 1)), -12);
+            // A word that is cut off is no word of the grammar, but it can be a name or a kind.
+            Check.same("errorOffset", x.errorOffset() <= i, true);
+            Check.same("errorOffset", x.errorOffset() < i,
+                Character.isLetter(text.charAt(i)) && i > 0
+                && Character.isLetter(text.charAt(i - 1)));
+        }
+    }
+
+    /** Each letter of a good text's words in turn, changed to another one. */
+    private static void wrongLetters() {
+        String text = "spaces;volume a;root a;mount a/;bind/>/;make private/;make shared/;"
+            + "make slave/;make secret/;";
+        taken(text, 3);
+        for (int i = 0; i < text.length(); i++) {
+            boolean isInWord = Character.isLetter(text.charAt(i)) && i > 0
+                && (Character.isLetter(text.charAt(i - 1)) || Character.isLetter(
+                    text.charAt(i + 1)));
+            if (isInWord || i == 0) {
+                int start = i;
+                while (start > 0 && Character.isLetter(text.charAt(start - 1))) {
+                    start--;
+                }
+                String wrong = text.substring(0, i) + (char) (text.charAt(i) ^ 1)
+                    + text.substring(i + 1);
+                error(-12, wrong.substring(0, start) + "^" + wrong.substring(start));
+            }
+        }
+        String last = " ".repeat(600 - A.length() - 4) + A + "makd";
+        MountSpaces x = new MountSpaces();
+        Check.same("a wrong word at the end of 600 bytes", Check.load(x, last), -12);
+        Check.same("errorOffset", x.errorOffset(), 596);
     }
 
     private static void anyNames() {
