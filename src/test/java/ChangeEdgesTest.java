@@ -13,6 +13,7 @@ public final class ChangeEdgesTest {
     }
 
     public static void main(String[] args) {
+        Check.choose(args);
         mounts();
         moves();
         unmounts();

@@ -11,6 +11,7 @@ public final class FactsEdgesTest {
     }
 
     public static void main(String[] args) {
+        Check.choose(args);
         objects();
         facts();
         looks();

@@ -7,6 +7,7 @@ public final class InputEdgesTest {
     }
 
     public static void main(String[] args) {
+        Check.choose(args);
         Check.edge("Promise 2, appends 20 bytes, most significant first",
             InputEdgesTest::eachByte);
         Check.edge("Promise 2, bytes from 128 to 255 are appended, too",

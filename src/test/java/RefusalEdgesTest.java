@@ -31,6 +31,7 @@ public final class RefusalEdgesTest {
     }
 
     public static void main(String[] args) {
+        Check.choose(args);
         mounting();
         binding();
         movingTaken();

@@ -18,6 +18,7 @@ public final class SetupEdgesTest {
     }
 
     public static void main(String[] args) {
+        Check.choose(args);
         grammar();
         tokens();
         meaning();

@@ -8,6 +8,7 @@ public final class TermsEdgesTest {
     }
 
     public static void main(String[] args) {
+        Check.choose(args);
         whole();
         mounts();
         followers();

@@ -12,6 +12,7 @@ public final class UndoEdgesTest {
     }
 
     public static void main(String[] args) {
+        Check.choose(args);
         changes();
         noChanges();
         numbers();
