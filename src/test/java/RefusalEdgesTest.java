@@ -332,7 +332,7 @@ public final class RefusalEdgesTest {
     /** Mounts the first on a place, and each other one on the one before it. */
     private static void stack(MountSpaces x, int onto, int place, int mounts) {
         x.mount(onto, place, 1);
-        while (x.count(2) < mounts) {
+        for (int n = 0; n < 40 && x.count(2) < mounts; n++) {
             x.mount(x.mountAt(x.count(2) - 1), 0, 1);
         }
         Check.same("mounts", x.count(2), mounts);
